@@ -266,6 +266,16 @@ public final class PromisesTest {
         due("120 by 125 is 144 by 150", z.best(0), 5);
         z.hold(30, 145);
         due("145 by 150 is more", z.best(0), 30);
+        DredgeWays y = new DredgeWays();
+        y.hold(30, 0);
+        y.spot(0, 1000, 1);
+        y.hold(1, 120);
+        y.hold(2, 121);
+        // 121 * 121 > 120 * 122
+        due("121 by 122", y.best(0), 2);
+        y.hold(1, 121);
+        y.hold(2, 122);
+        due("121 by 121 is 122 by 122", y.best(0), 1);
         int[] wrong = {-1, 3, MIN, MAX};
         for (int w : wrong) due("best wrong", x.best(w), BAD);
     }
@@ -705,6 +715,13 @@ public final class PromisesTest {
         x.lose(4, 1);
         due("a gap behind", x.between(2, 4, 1), 9);
         due("the other way", x.between(4, 2, 1), 0);
+        DredgeWays y = row(1, 0);
+        y.sound(0);
+        y.lay(0, 0, 2);
+        y.sound(1);
+        due("the least design", y.between(0, 1, 1), 2);
+        y.lose(0, 0);
+        due("the least design", y.between(0, 1, 2), 1);
     }
 
     private static void sounded() {
