@@ -45,28 +45,6 @@ public final class PromisesTest {
         checks.due(call, got, want);
     }
 
-    private static DredgeWays ways(int columns, int rows) {
-        DredgeWays x = new DredgeWays();
-        x.board(columns, rows);
-        return x;
-    }
-
-    /** A board of one row whose cells have these depths and this design. */
-    private static DredgeWays row(int design, int... depths) {
-        DredgeWays x = ways(depths.length, 1);
-        for (int c = 0; c < depths.length; c++) {
-            x.lay(c, 0, depths[c]);
-            x.lay(c, 1, design);
-        }
-        return x;
-    }
-
-    /** A trip of one minute, in which as much is dug as is wanted and so little overflows that none is raised by it. */
-    private static int dig(DredgeWays x, int row, int a, int b, int wanted) {
-        x.hold(1, wanted);
-        return x.trip(row, a, b, 1, 0);
-    }
-
     private static void dueCells(String after, DredgeWays x, int what, int... want) {
         for (int c = 0; c < want.length; c++) due(after + ": cell(" + c + ", " + what + ")", x.cell(c, what), want[c]);
     }
@@ -116,12 +94,12 @@ public final class PromisesTest {
         due("rows", x.count(1), 2);
         // Cells are numbered along the rows: 4 is row 1, column 1.
         x.lay(4, 1, 9);
-        dig(x, 1, 1, 1, 3);
+        Boards.dig(x, 1, 1, 1, 3);
         due("row times columns, and column", x.cell(4, 0), 3);
     }
 
     private static void boardMakesAllNew() {
-        DredgeWays x = row(20, 1, 2, 3);
+        DredgeWays x = Boards.row(20, 1, 2, 3);
         x.rule(0, 1);
         x.rule(1, 90);
         x.rule(2, 20);
@@ -146,7 +124,7 @@ public final class PromisesTest {
     }
 
     private static void lay() {
-        DredgeWays x = ways(2, 1);
+        DredgeWays x = Boards.ways(2, 1);
         due("lay depth", x.lay(0, 0, 400), 0);
         due("lay depth again", x.lay(0, 0, 0), 400);
         due("lay design", x.lay(0, 1, 300), 0);
@@ -208,7 +186,7 @@ public final class PromisesTest {
     }
 
     private static void spot() {
-        DredgeWays x = row(100, 0);
+        DredgeWays x = Boards.row(100, 0);
         due("spot", x.spot(0, 100000, 20), 0);
         due("may", x.about(0, 1), 100000);
         due("hours", x.about(0, 2), 20);
@@ -230,7 +208,7 @@ public final class PromisesTest {
     }
 
     private static void post() {
-        DredgeWays x = ways(3, 1);
+        DredgeWays x = Boards.ways(3, 1);
         int[][] wrong = {{-1, 5}, {3, 5}, {0, -1}, {0, 10001}, {MIN, 5}, {MAX, 5}, {0, MIN}, {0, MAX}};
         for (int[] w : wrong) due("post wrong", x.post(w[0], w[1]), BAD);
         due("none yet", x.count(10), 0);
@@ -281,13 +259,13 @@ public final class PromisesTest {
     }
 
     private static void tripDigs() {
-        DredgeWays x = ways(4, 3);
+        DredgeWays x = Boards.ways(4, 3);
         for (int c = 4; c < 8; c++) x.lay(c, 1, 10);
-        due("along", dig(x, 1, 0, 3, 3), 3);
+        due("along", Boards.dig(x, 1, 0, 3, 3), 3);
         dueCells("along", x, 0, 0, 0, 0, 0, 1, 1, 1, 0, 0, 0, 0, 0);
-        due("back", dig(x, 1, 3, 1, 2), 2);
+        due("back", Boards.dig(x, 1, 3, 1, 2), 2);
         dueCells("back", x, 0, 0, 0, 0, 0, 1, 1, 2, 1, 0, 0, 0, 0);
-        due("one cell", dig(x, 1, 1, 1, 4), 4);
+        due("one cell", Boards.dig(x, 1, 1, 1, 4), 4);
         dueCells("one cell", x, 0, 0, 0, 0, 0, 1, 5, 2, 1, 0, 0, 0, 0);
         due("no minutes", x.trip(1, 0, 3, 0, 0), 0);
         due("no design", x.trip(0, 0, 3, 30, 0), 0);
@@ -302,27 +280,27 @@ public final class PromisesTest {
     }
 
     private static void tripDigsAgain() {
-        DredgeWays x = row(10, 8, 0, 8);
+        DredgeWays x = Boards.row(10, 8, 0, 8);
         x.rule(0, 1);
         x.lay(1, 1, 0);
-        due("again from a on", dig(x, 0, 2, 0, 3), 3);
+        due("again from a on", Boards.dig(x, 0, 2, 0, 3), 3);
         dueCells("again from a on", x, 0, 9, 0, 10);
-        due("till nothing is left", dig(x, 0, 0, 2, 30), 3);
+        due("till nothing is left", Boards.dig(x, 0, 0, 2, 30), 3);
         dueCells("till nothing is left", x, 0, 11, 0, 11);
-        due("nothing left", dig(x, 0, 0, 2, 30), 0);
+        due("nothing left", Boards.dig(x, 0, 0, 2, 30), 0);
         x.rule(0, 0);
-        due("deeper than it may", dig(x, 0, 2, 2, 30), 0);
+        due("deeper than it may", Boards.dig(x, 0, 2, 2, 30), 0);
         dueCells("nothing left", x, 0, 11, 0, 11);
-        DredgeWays y = row(300, 349);
+        DredgeWays y = Boards.row(300, 349);
         y.rule(0, 50);
-        due("to the deepest", dig(y, 0, 0, 0, 30), 1);
+        due("to the deepest", Boards.dig(y, 0, 0, 0, 30), 1);
         due("to the deepest", y.cell(0, 0), 350);
-        due("no deeper", dig(y, 0, 0, 0, 30), 0);
-        DredgeWays z = row(300, 0);
+        due("no deeper", Boards.dig(y, 0, 0, 0, 30), 0);
+        DredgeWays z = Boards.row(300, 0);
         z.hold(30, 200);
         due("200 runs along", z.trip(0, 0, 0, 30, 0), 200);
         due("200 deep", z.cell(0, 0), 200);
-        DredgeWays w = row(5, 0, 0, 0);
+        DredgeWays w = Boards.row(5, 0, 0, 0);
         w.rule(0, 0);
         w.hold(1, 8);
         due("the last is told by the runs", w.trip(0, 2, 0, 1, 0), 8);
@@ -330,7 +308,7 @@ public final class PromisesTest {
     }
 
     private static void tripWaits() {
-        DredgeWays x = row(300, 0);
+        DredgeWays x = Boards.row(300, 0);
         x.rule(1, 40);
         x.rule(2, 45);
         x.rule(3, 70);
@@ -353,7 +331,7 @@ public final class PromisesTest {
         x.hours(8);
         due("laden at once", x.trip(0, 0, 0, 1, 0), 1);
         due("laden at once", x.count(2), 60);
-        DredgeWays y = row(300, 0);
+        DredgeWays y = Boards.row(300, 0);
         y.spot(0, 1000, 20);
         y.rule(1, 20);
         y.rule(3, 80);
@@ -364,7 +342,7 @@ public final class PromisesTest {
     }
 
     private static void tripOverflows() {
-        DredgeWays x = row(10, 9, 7, 0, 7);
+        DredgeWays x = Boards.row(10, 9, 7, 0, 7);
         x.lay(2, 1, 0);
         x.rule(0, 0);
         // Along it is 1 in columns 0, 1 and 3, again in 1 and 3; 15 overflow at 3, of which 9 settle.
@@ -383,7 +361,7 @@ public final class PromisesTest {
         due("on what is there", x.trip(0, 2, 2, 10, 0), 0);
         due("on what is there", x.cell(2, 2), after(after(8, 5) + 40, 5));
         // More in the hold than was pumped: no cloud.
-        DredgeWays y = row(300, 0);
+        DredgeWays y = Boards.row(300, 0);
         y.hold(10, 41);
         due("trip", y.trip(0, 0, 0, 10, 0), 41);
         due("less than nothing", y.count(5), 0);
@@ -409,7 +387,7 @@ public final class PromisesTest {
     }
 
     private static void tripIsRefused() {
-        DredgeWays x = row(300, 0);
+        DredgeWays x = Boards.row(300, 0);
         x.spot(0, 9, 1);
         due("too much", x.trip(0, 0, 0, 10, 0), NO);
         dueNothingDone("too much", x);
@@ -417,7 +395,7 @@ public final class PromisesTest {
         due("one more", x.trip(0, 0, 0, 1, 0), NO);
         due("nothing goes always", x.trip(0, 0, 0, 0, 0), 0);
 
-        DredgeWays y = row(300, 0);
+        DredgeWays y = Boards.row(300, 0);
         y.rule(3, 101);
         due("never laden", y.trip(0, 0, 0, 10, 0), NO);
         dueNothingDone("never laden", y);
@@ -436,7 +414,7 @@ public final class PromisesTest {
     }
 
     private static void tripFull() {
-        DredgeWays x = row(300, 0);
+        DredgeWays x = Boards.row(300, 0);
         for (int i = 0; i < 24; i++) x.hours(200);
         x.hours(195);
         due("hours", x.count(2), 4995);
@@ -456,7 +434,7 @@ public final class PromisesTest {
     }
 
     private static void tripBad() {
-        DredgeWays x = ways(3, 2);
+        DredgeWays x = Boards.ways(3, 2);
         int[][] wrong = {{-1, 0, 0, 1, 0}, {2, 0, 0, 1, 0}, {0, -1, 0, 1, 0}, {0, 3, 0, 1, 0}, {0, 0, -1, 1, 0},
             {0, 0, 3, 1, 0}, {0, 0, 0, -1, 0}, {0, 0, 0, 31, 0}, {0, 0, 0, 1, -1}, {0, 0, 0, 1, 3},
             {MAX, 0, 0, 1, 0}, {0, MAX, 0, 1, 0}, {0, 0, MIN, 1, 0}, {0, 0, 0, MIN, 0}, {0, 0, 0, 1, MAX}};
@@ -486,7 +464,7 @@ public final class PromisesTest {
 
     /** A row without design in whose column a cloud of 40 came; five hours went by. */
     private static DredgeWays clouded(int columns, int column, int current) {
-        DredgeWays x = ways(columns, 2);
+        DredgeWays x = Boards.ways(columns, 2);
         x.rule(4, current);
         x.trip(1, column, column, 10, 0);
         return x;
@@ -506,7 +484,7 @@ public final class PromisesTest {
         dueCells("off the left", w, 2, 0, 0, 1, 0);
         due("off the left", w.count(6), 20 + 5 + 1 + 1);
         due("off the left settled", w.count(7), 10 + 2);
-        DredgeWays v = ways(2, 2);
+        DredgeWays v = Boards.ways(2, 2);
         v.rule(4, 1);
         v.trip(0, 1, 1, 10, 0);
         dueCells("off the right", v, 2, 0, 1, 0, 0);
@@ -515,7 +493,7 @@ public final class PromisesTest {
     }
 
     private static void cloudsSettle() {
-        DredgeWays x = row(0, 10);
+        DredgeWays x = Boards.row(0, 10);
         x.trip(0, 0, 0, 10, 0);
         // 40 30 23 18 14 11: 10, 7, 5, 4, 3 settled: 29, seven fours and 1.
         due("settled", x.count(7), 29);
@@ -542,7 +520,7 @@ public final class PromisesTest {
     }
 
     private static void silt() {
-        DredgeWays x = ways(3, 3);
+        DredgeWays x = Boards.ways(3, 3);
         int[] depths = {5, 4, 5, 4, 5, 5, 9, 3, 0};
         int[] design = {1, 1, 1, 1, 1, 0, 1, 1, 1};
         for (int c = 0; c < 9; c++) {
@@ -561,29 +539,29 @@ public final class PromisesTest {
         // Means: 4; 12 by 3; 9 by 2; 16 by 3; 16 by 4; -; 7 by 2; 12 by 3; 8 by 2.
         dueCells("at 48", x, 0, 4, 4, 4, 4, 4, 5, 7, 3, 0);
         due("came", x.count(8), 5);
-        DredgeWays y = row(5, 400);
+        DredgeWays y = Boards.row(5, 400);
         y.hours(48);
         due("a lone cell", y.cell(0, 0), 400);
         due("a lone cell", y.count(8), 0);
         // All as they were ahead, in both directions: each is above its mean, or none.
-        DredgeWays z = row(5, 3, 2, 1);
+        DredgeWays z = Boards.row(5, 3, 2, 1);
         z.hours(24);
         dueCells("as ahead", z, 0, 2, 2, 1);
-        DredgeWays w = row(5, 1, 2, 3);
+        DredgeWays w = Boards.row(5, 1, 2, 3);
         w.hours(24);
         dueCells("as ahead", w, 0, 1, 2, 2);
         // A mean of 2.5 is cut to 2, so 3 is above and 2 is not.
-        DredgeWays v = row(5, 2, 2, 3);
+        DredgeWays v = Boards.row(5, 2, 2, 3);
         v.hours(24);
         dueCells("cut", v, 0, 2, 2, 2);
-        DredgeWays u = row(5, 2, 3, 3);
+        DredgeWays u = Boards.row(5, 2, 3, 3);
         u.hours(24);
         dueCells("cut", u, 0, 2, 2, 3);
     }
 
     private static void siltComesAfterClouds() {
         // In the 24th hour 4 settle at column 0 (16 afloat): 9 becomes 8, which is not above its neighbour.
-        DredgeWays x = ways(2, 1);
+        DredgeWays x = Boards.ways(2, 1);
         x.lay(0, 1, 1);
         x.lay(0, 0, 9);
         x.lay(1, 0, 8);
@@ -598,7 +576,7 @@ public final class PromisesTest {
     }
 
     private static void sound() {
-        DredgeWays x = row(5, 1, 2, 3);
+        DredgeWays x = Boards.row(5, 1, 2, 3);
         for (int s = 0; s < 6; s++) {
             due("missing", x.sounded(s, 0), NO);
             due("sound", x.sound(s), 0);
@@ -616,7 +594,7 @@ public final class PromisesTest {
     }
 
     private static void lose() {
-        DredgeWays x = row(5, 1, 0);
+        DredgeWays x = Boards.row(5, 1, 0);
         due("missing", x.lose(0, 0), NO);
         x.sound(0);
         due("lose", x.lose(0, 1), 1);
@@ -630,7 +608,7 @@ public final class PromisesTest {
     }
 
     private static void join() {
-        DredgeWays x = row(5, 1, 2, 3, 4);
+        DredgeWays x = Boards.row(5, 1, 2, 3, 4);
         due("both missing", x.join(0, 1), NO);
         x.sound(0);
         due("one missing", x.join(0, 1), NO);
@@ -657,7 +635,7 @@ public final class PromisesTest {
     }
 
     private static void volumeAndUnknown() {
-        DredgeWays x = row(5, 10, 20, 30, 40);
+        DredgeWays x = Boards.row(5, 10, 20, 30, 40);
         x.lay(3, 1, 0);
         due("both missing", x.between(0, 1, 0), -1000002);
         x.sound(0);
@@ -684,7 +662,7 @@ public final class PromisesTest {
     }
 
     private static int paid(int before, int after) {
-        DredgeWays x = row(10, before);
+        DredgeWays x = Boards.row(10, before);
         x.sound(0);
         x.lay(0, 0, after);
         x.sound(1);
@@ -700,7 +678,7 @@ public final class PromisesTest {
         due("from over on", paid(15, 18), 0);
         due("from below over on", paid(17, 18), 0);
         due("less deep", paid(13, 11), 0);
-        DredgeWays x = row(10, 3, 3, 3, 3);
+        DredgeWays x = Boards.row(10, 3, 3, 3, 3);
         x.lay(2, 1, 0);
         x.sound(2);
         for (int c = 0; c < 4; c++) x.lay(c, 0, 20);
@@ -715,7 +693,7 @@ public final class PromisesTest {
         x.lose(4, 1);
         due("a gap behind", x.between(2, 4, 1), 9);
         due("the other way", x.between(4, 2, 1), 0);
-        DredgeWays y = row(1, 0);
+        DredgeWays y = Boards.row(1, 0);
         y.sound(0);
         y.lay(0, 0, 2);
         y.sound(1);
@@ -725,7 +703,7 @@ public final class PromisesTest {
     }
 
     private static void sounded() {
-        DredgeWays x = row(5, 0, 400);
+        DredgeWays x = Boards.row(5, 0, 400);
         due("missing", x.sounded(5, 0), NO);
         x.sound(5);
         due("0 is no gap", x.sounded(5, 0), 0);
@@ -738,7 +716,7 @@ public final class PromisesTest {
     }
 
     private static void cell() {
-        DredgeWays x = row(50, 30, 20);
+        DredgeWays x = Boards.row(50, 30, 20);
         x.trip(0, 1, 1, 1, 0);
         // A cloud of 3 at column 1: 3 / 4 is 0, so it stays.
         dueCells("depth", x, 0, 30, 21);
@@ -750,7 +728,7 @@ public final class PromisesTest {
     }
 
     private static void about() {
-        DredgeWays x = row(50, 0);
+        DredgeWays x = Boards.row(50, 0);
         x.spot(1, 77, 4);
         x.trip(0, 0, 0, 6, 1);
         due("holds", x.about(1, 0), 6);
@@ -762,7 +740,7 @@ public final class PromisesTest {
     }
 
     private static void broken() {
-        DredgeWays x = ways(2, 1);
+        DredgeWays x = Boards.ways(2, 1);
         due("none", x.broken(0), BAD);
         x.post(0, 30);
         x.post(0, 29);
@@ -781,7 +759,7 @@ public final class PromisesTest {
         int[] wrong = {-1, 5, 8, MIN, MAX};
         for (int w : wrong) due("broken wrong", x.broken(w), BAD);
         // What drifts to a post in an hour is there at its end.
-        DredgeWays y = ways(3, 1);
+        DredgeWays y = Boards.ways(3, 1);
         y.rule(4, 1);
         y.post(1, 19);
         y.post(2, 9);
@@ -791,7 +769,7 @@ public final class PromisesTest {
     }
 
     private static void count() {
-        DredgeWays x = ways(3, 2);
+        DredgeWays x = Boards.ways(3, 2);
         x.lay(0, 1, 5);
         x.lay(1, 1, 5);
         x.lay(2, 1, 5);
