@@ -131,14 +131,20 @@ public final class BoundsTest {
         range("new: trip's b", DredgeWays::new, 0, 0, BAD, (x, b) -> x.trip(0, 0, b, 1, 0));
         for (int post = 0; post <= 8; post++) due("new: no post", new DredgeWays().broken(post), BAD);
         for (int s = 0; s <= 5; s++) due("new: MISSING", new DredgeWays().sounded(s, 0), NO);
+        Seen.nowAndLater(new DredgeWays()).dueLike(checks, "new, and a BOARD of one CELL", Seen.nowAndLater(Boards.ways(1, 1)));
     }
 
-    // Promise 2: 1 to 12 columns, 1 to 10 rows.
+    // Promise 2: 1 to 12 columns, 1 to 10 rows; "all as at first".
     private static void board() {
         range("board's columns", 1, 12, (x, c) -> x.board(c, 2));
         range("board's rows", 1, 10, (x, r) -> x.board(3, r));
         refused("board, both wrong", BoundsTest::inUse, BAD, x -> x.board(13, 11));
         refused("board, the other way about", BoundsTest::inUse, BAD, x -> x.board(10, 12));
+        for (int size = 1; size <= 3; size++) {
+            DredgeWays old = withAllPosts();
+            due("a new BOARD", old.board(size, 2), 2 * size);
+            Seen.nowAndLater(old).dueLike(checks, "a new BOARD", Seen.nowAndLater(Boards.ways(size, 2)));
+        }
         DredgeWays x = inUse();
         for (int columns = 1; columns <= 12; columns++) {
             for (int rows = 1; rows <= 10; rows++) {
@@ -169,9 +175,10 @@ public final class BoundsTest {
 
     // Promise 4: OVER 0 to 50, THE SILL, EMPTY and LADEN 0 to 400, CURRENT -1 to 1.
     private static void rule() {
-        int[] least = {0, 0, 0, 0, -1}, most = {50, 400, 400, 400, 1};
+        int[] least = {0, 0, 0, 0, -1}, most = {50, 400, 400, 400, 1}, first = {5, 100, 50, 80, 0};
         for (int i = 0; i < 5; i++) {
             int what = i;
+            due("rule " + what + " at first", new DredgeWays().rule(what, least[i]), first[i]);
             range("rule " + what, BoundsTest::inUse, least[i], most[i], BAD_RULE, (x, v) -> x.rule(what, v));
             DredgeWays x = inUse();
             x.rule(what, least[i]);

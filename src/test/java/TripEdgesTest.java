@@ -107,6 +107,12 @@ public final class TripEdgesTest {
         due("151 by 150 is more than 121 by 121", x.best(0), 30);
         x.hold(29, 150);
         due("150 by 149 is more than 151 by 150", x.best(0), 29);
+        x.hold(30, 0);
+        x.hold(1, 120);
+        x.hold(2, 121);
+        due("121 by 122 is more than 120 by 121", x.best(0), 2);
+        x.hold(2, 120);
+        due("120 by 122 is less than 120 by 121", x.best(0), 1);
     }
 
     // Promise 9: "120 times the SPOT's HOURS", 1 to 20 of them; 161 by 2415 is like 162 by 2430.
