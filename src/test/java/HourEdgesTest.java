@@ -32,6 +32,7 @@ public final class HourEdgesTest {
         siltOfLoneAndPairedCells();
         siltDownToNothing();
         siltAllAsAhead();
+        siltOfAGreaterBoard();
         boardAnewInTheDay();
         lastCall();
         checks.end();
@@ -443,6 +444,23 @@ public final class HourEdgesTest {
             x.lay(c, 1, 1);
         }
         dueSilt("from below", x, 4, 3, 3);
+    }
+
+    /** A smaller board: no SILT comes to the cells that it has not any more. */
+    private static void siltOfAGreaterBoard() {
+        DredgeWays x = Boards.ways(12, 10);
+        for (int c = 0; c < 120; c += 2) {
+            x.lay(c, 0, 9);
+            x.lay(c, 1, 1);
+        }
+        x.hours(24);
+        due("SILT of the greater", x.count(8) > 0 ? 1 : 0, 1);
+        int[][] sizes = {{1, 1}, {2, 1}, {3, 1}, {2, 2}, {11, 10}};
+        for (int[] size : sizes) {
+            x.board(size[0], size[1]);
+            x.hours(24);
+            due("no SILT of " + size[0] + " by " + size[1], x.count(8), 0);
+        }
     }
 
     /** Promise 2: with a new board HOURS begin at 0 again, and the day too. */

@@ -24,6 +24,8 @@ public final class SheetEdgesTest {
         unknownNoneToAll();
         unknownOfDrawnCells();
         sheetsOfAnOldBoard();
+        sheetsOfAGreaterBoard();
+        sheetsByThemselves();
         tellsWhatWas();
         notYetAtDesign();
         countsAreCounted();
@@ -297,6 +299,57 @@ public final class SheetEdgesTest {
         x.sound(0);
         due("the new depth", x.sounded(0, 119), 0);
         due("no GAP", x.sounded(0, 118), 0);
+    }
+
+    /** A smaller board: the cells that it has not any more are in no sounding. */
+    private static void sheetsOfAGreaterBoard() {
+        DredgeWays x = Boards.ways(12, 10);
+        x.sound(0);
+        for (int c = 0; c < 120; c++) x.lay(c, 0, 400);
+        x.sound(1);
+        for (int c = 0; c < 12; c++) x.lose(0, c);
+        x.board(3, 1);
+        x.sound(0);
+        x.sound(1);
+        due("nothing to get", x.join(0, 1), 0);
+        due("nothing deeper", x.between(0, 1, VOLUME), 0);
+        due("nothing unknown", x.between(0, 1, UNKNOWN), 0);
+        x.board(4, 1);
+        x.sound(0);
+        due("the new one of a greater", x.sounded(0, 3), 0);
+    }
+
+    /** On the greatest board nothing of a sheet's first and last cell gets into the sheets beside it. */
+    private static void sheetsByThemselves() {
+        DredgeWays x = Boards.ways(12, 10);
+        for (int s = 0; s <= 5; s++) soundEnds(x, s, 10 + 3 * s, 100 + 7 * s);
+        soundEnds(x, 2, 50, 60);
+        for (int s = 0; s <= 5; s++) dueEnds("sound", x, s, s == 2 ? 50 : 10 + 3 * s, s == 2 ? 60 : 100 + 7 * s);
+        due("2 to 4", x.between(2, 4, VOLUME), 22 - 50 + 128 - 60);
+        due("0 to 5", x.between(0, 5, VOLUME), 25 - 10 + 135 - 100);
+        due("4 to 1", x.between(4, 1, VOLUME), 13 - 22 + 107 - 128);
+        due("lose", x.lose(3, 0), 1);
+        due("lose", x.lose(1, 119), 1);
+        due("no GAPS in 2", x.join(2, 4), 0);
+        dueEnds("join", x, 1, 13, NONE);
+        dueEnds("join", x, 3, NONE, 121);
+        x.lose(2, 0);
+        x.lose(2, 119);
+        due("two GAPS in 2", x.join(2, 4), 2);
+        dueEnds("join", x, 1, 13, NONE);
+        dueEnds("join", x, 2, 22, 128);
+        dueEnds("join", x, 3, NONE, 121);
+    }
+
+    private static void soundEnds(DredgeWays x, int s, int first, int last) {
+        x.lay(0, 0, first);
+        x.lay(119, 0, last);
+        due("sound", x.sound(s), 0);
+    }
+
+    private static void dueEnds(String after, DredgeWays x, int s, int first, int last) {
+        due(after + ": first of " + s, x.sounded(s, 0), first);
+        due(after + ": last of " + s, x.sounded(s, 119), last);
     }
 
     /** Promises 3 to 7: the answer is what it was, or what it holds. */
