@@ -23,6 +23,8 @@ public final class LanguageTest {
         face();
         classesInside(code);
         methodLengths(code);
+        machineNeverThrows(code);
+        madeInConstructorsAlone(code);
         checks.end();
     }
 
@@ -78,6 +80,24 @@ public final class LanguageTest {
             if (lines[i].matches(" {4}( {4})?\\}")) due("line " + (i + 1) + ": a method of sixty lines at most", i - begun <= 60 || begun == 0 ? 1 : 0, 1);
             if (lines[i].contains("class ")) begun = 0;
         }
+    }
+
+    /** Arrays are used in Numbers alone, which looks at each index; divisors are constants or looked at in their line. */
+    private static void machineNeverThrows(String code) {
+        String numbers = "(?s)private static final class Numbers \\{.*?\n    \\}\n";
+        due("one class of arrays", found(numbers, code), 1);
+        due("arrays elsewhere", found("\\[", code.replaceAll(numbers, "")), 0);
+        due("divisors that may be 0", found("[/%]=?+ *+(?![1-9]|[A-Z_]+\\b|neighbours\\b)", code), 0);
+        due("divided by neighbours", found("[/%] *neighbours", code), found("neighbours > 0 && [^;]*[/%] neighbours", code));
+        due("casts", found("\\((int|long|short|byte|char|[A-Z]\\w*)\\) *[\\w(]", code), 0);
+        due("the word null", found("\\bnull\\b", code), 0);
+    }
+
+    /** So that no run of calls can make more than its room holds. */
+    private static void madeInConstructorsAlone(String code) {
+        int inFields = found("(?m)^ {4}( {4})?(private )?final \\w+ \\w+ = new \\w+\\(", code);
+        due("what the constructor of Numbers makes", found("items = new int\\[", code), 1);
+        due("objects made by calls", found("\\bnew\\b", code) - inFields - 1, 0);
     }
 
     private static void due(String what, long got, long want) {
